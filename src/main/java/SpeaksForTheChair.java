@@ -261,8 +261,8 @@ public final class SpeaksForTheChair {
                 return p;
             }
             sum += laid.weightOf(told[p] & ~out);
+            // With its deeds out it gains nothing more, so it need not leave the loose ones.
             out |= told[p];
-            loose &= ~(1 << p);
         }
         return k == -1 ? sum : NONE;
     }

@@ -2,6 +2,10 @@
 public final class ChancesTest {
     private static final int BAD = SpeaksForTheChair.BAD;
 
+    // Little can be bought, all can speak, and what one tells hangs on where it is.
+    private static final String DEAR_HOUSE = "p0,0,60;p1,1,30;p2,2,20;p3,3,60;p0,1,11;p1,0,60;p2,3,60;p0,2,60;m31;"
+        + "d0,0,3,5;d0,1,13,5;d0,2,3,5;d0,3,13,5;d0,0,15,5;d0,1,1,5;d0,2,17,5;d0,3,9,5;d0,0,20,5;";
+
     private ChancesTest() {
     }
 
@@ -81,15 +85,8 @@ public final class ChancesTest {
     private static void saleByHand() {
         for (int z : new int[] {0, 1, 2, 3, 77, 500, 4321, 9998, 9999}) {
             for (int n : new int[] {1, 2, 3, 7, 20, 39, 40}) {
-                SpeaksForTheChair x = new SpeaksForTheChair();
-                SpeaksForTheChair acted = new SpeaksForTheChair();
-                actOut(acted, z, n);
-                int out = 0;
-                for (int d = 0; d < acted.count(1); d++) {
-                    out |= acted.deed(d, 4) << d;
-                }
-                Checks.due("sale " + z + " " + n + ", out", x.sale(z, n, 0), out);
-                Checks.due("sale " + z + " " + n + ", coins", x.sale(z, n, 1), acted.count(2));
+                saleIsAsActedOut(new SpeaksForTheChair(), new SpeaksForTheChair(), z, n);
+                saleIsAsActedOut(Checks.laid(DEAR_HOUSE), Checks.laid(DEAR_HOUSE), z, n);
             }
         }
         // By pencil: x is 1, then 6152; 6152 x 6152 = 577 x 65521 + 41487, so the draws are 0 and
@@ -100,6 +97,16 @@ public final class ChancesTest {
         Checks.due("the first draw is 0: piece 0 speaks", one.sale(0, 1, 0), 1);
         SpeaksForTheChair law = Checks.laid("p0,2,0;d0,2,0,1;l0;");
         Checks.due("not against the law", law.sale(0, 40, 0), 0);
+    }
+
+    private static void saleIsAsActedOut(SpeaksForTheChair x, SpeaksForTheChair acted, int z, int n) {
+        actOut(acted, z, n);
+        int out = 0;
+        for (int d = 0; d < acted.count(1); d++) {
+            out |= acted.deed(d, 4) << d;
+        }
+        Checks.due("sale " + z + " " + n + ", out", x.sale(z, n, 0), out);
+        Checks.due("sale " + z + " " + n + ", coins", x.sale(z, n, 1), acted.count(2));
     }
 
     private static void actOut(SpeaksForTheChair x, int z, int n) {

@@ -16,6 +16,7 @@ public final class SilenceTest {
         safeBySofas();
         dealer();
         ruin();
+        fullHouse();
         Checks.end();
     }
 
@@ -63,6 +64,8 @@ public final class SilenceTest {
         for (int what : Checks.outside(0, 1)) {
             Checks.due("hushAll what " + what, x.hushAll(1, what), BAD);
         }
+        Checks.due("the first deed, as heavy", Checks.laid("p0,0,3;d0,0,0,5;").hushAll(5, 0), 3);
+        Checks.due("the first deed, less heavy", Checks.laid("p0,0,3;d0,0,0,5;").hushAll(6, 0), 0);
         x.speak(1);
         Checks.due("what has come out is not asked for", x.hushAll(10, 1), 4);
         Checks.due("how much", x.hushAll(1, 0), 15);
@@ -224,11 +227,51 @@ public final class SilenceTest {
         Checks.due("a bought one is not had to speak", y.dealer(0), 2);
         Checks.due("then", y.dealer(1), 0);
         Checks.due("all together", y.dealer(-1), 11);
-        SpeaksForTheChair eight = Checks.laid("p0,0,0;p0,0,0;p0,1,0;p0,2,0;p0,3,0;d0,0,0,1;d0,1,0,2;d0,2,0,3;d0,3,0,4;");
+        SpeaksForTheChair eight = Checks.laid("p0,0,0;p0,0,0;p0,1,0;p0,2,0;p0,3,0;"
+            + "d0,0,0,1;d0,1,0,2;d0,2,0,3;d0,3,0,4;");
         int[] order = {4, 3, 2, 0, SpeaksForTheChair.NONE};
         for (int k = 0; k < order.length; k++) {
             Checks.due("the one at " + k, eight.dealer(k), order[k]);
         }
+    }
+
+    /** As many pieces and deeds as there can be: piece p is in room p modulo 4, as deed d is in room d modulo 4. */
+    private static void fullHouse() {
+        Checks.promise("12 to 20 in a full house");
+        StringBuilder text = new StringBuilder("m99;");
+        for (int p = 0; p < 8; p++) {
+            text.append("p0,").append(p % 4).append(",").append(p + 1).append(";");
+        }
+        for (int d = 0; d < 9; d++) {
+            text.append("d").append(d % 6).append(",").append(d % 4).append(",0,").append(d + 1).append(";");
+        }
+        SpeaksForTheChair x = Checks.laid(text.toString());
+        Checks.due("hush the first", x.hush(0, 1), 0b10001);
+        Checks.due("hush the last", x.hush(8, 0), 6);
+        Checks.due("hush all", x.hushAll(1, 1), 255);
+        Checks.due("hush all, how much", x.hushAll(1, 0), 36);
+        Checks.due("hush the heaviest", x.hushAll(9, 1), 0b10001);
+        Checks.due("hush one", x.hushOne(0, 1), 0b1010101);
+        Checks.due("hush another", x.hushOne(5, 1), 0b100010);
+        Checks.due("save", x.save(1), 255);
+        Checks.due("save, as much", x.save(0), 0);
+        Checks.due("together", x.together(3, 7), 0b10001000);
+        Checks.due("cover", x.cover(1), 15);
+        Checks.due("cover, how many", x.cover(0), 4);
+        Checks.due("safe", x.safe(0, 1), 0);
+        Checks.due("dealer, all", x.dealer(-1), 45);
+        int[] order = {0, 3, 2, 1, SpeaksForTheChair.NONE};
+        for (int k = 0; k < order.length; k++) {
+            Checks.due("dealer " + k, x.dealer(k), order[k]);
+        }
+        x.speak(7);
+        x.speak(4);
+        Checks.due("ruin", x.ruin(0), 1);
+        Checks.due("ruin", x.ruin(2), 9);
+        Checks.due("ruin", x.ruin(3), 4);
+        x.buy(0);
+        Checks.due("save what has not come out", x.save(1), 0b1100110);
+        Checks.due("cover by the loose ones", x.cover(1), 0b1110);
     }
 
     private static void ruin() {
