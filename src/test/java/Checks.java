@@ -1,3 +1,6 @@
+import java.util.Arrays;
+import java.util.function.Supplier;
+
 /** Counts what is not as due, and ends a test's main with exit code 1 if anything was not. */
 final class Checks {
     private static String promise = "";
@@ -21,6 +24,23 @@ final class Checks {
 
     static void holds(String what, boolean so) {
         due(what + " (1: so)", so ? 1 : 0, 1);
+    }
+
+    static int wrong() {
+        return wrong;
+    }
+
+    /** A call that is asked of a house. */
+    interface Call {
+        int of(SpeaksForTheChair x);
+    }
+
+    /** The call answers as wanted and leaves all as in a twin house that was not asked. */
+    static void keepsAll(String call, Supplier<SpeaksForTheChair> house, Call asked, int want) {
+        SpeaksForTheChair x = house.get();
+        due(call, asked.of(x), want);
+        String twin = Houses.allOf(house.get());
+        holds(call + " changes nothing", twin.equals(Houses.allOf(x)));
     }
 
     static void end() {
@@ -49,22 +69,15 @@ final class Checks {
         return x;
     }
 
-    /** All that can be asked without changing anything, in one text. */
+    /** How it stands, in one text, by so few calls that an object's 512 suffice for a dozen such. */
     static String picture(SpeaksForTheChair x) {
-        StringBuilder all = new StringBuilder();
-        for (int what = 0; what <= 10; what++) {
-            all.append("c").append(x.count(what));
+        int[] counts = Houses.counts(x);
+        StringBuilder all = new StringBuilder(Arrays.toString(counts));
+        for (int p = 0; p < counts[0]; p++) {
+            all.append("p").append(x.piece(p, 1)).append(x.piece(p, 3));
         }
-        for (int p = 0; p < x.count(0); p++) {
-            for (int what = 0; what <= 5; what++) {
-                all.append("p").append(x.piece(p, what));
-            }
-        }
-        for (int d = 0; d < x.count(1); d++) {
-            for (int what = 0; what <= 5; what++) {
-                all.append("d").append(x.deed(d, what));
-            }
-            all.append("m").append(x.may(d, 0)).append("m").append(x.may(d, 1));
+        for (int d = 0; d < counts[1]; d++) {
+            all.append("d").append(x.deed(d, 4));
         }
         return all.append("f").append(x.fault()).toString();
     }

@@ -141,19 +141,18 @@ public final class HousesTest {
 
     private static void lay() {
         Checks.promise("5 lay");
-        SpeaksForTheChair x = new SpeaksForTheChair();
-        x.speak(2);
-        x.seen(1, 1, 1);
-        x.keep();
         for (String text : new String[] {"", "m1;", "d0,0,0,1;l1;m5;", "p0,0,0;p0,0,61;", "p0,0,0;p", "p1,1,1; "}) {
-            x.wipe();
-            Checks.write(x, text);
-            String before = Checks.picture(x);
-            Checks.due("lay \"" + text + "\"", x.lay(), SpeaksForTheChair.NO);
-            Checks.holds("nothing changed by \"" + text + "\"", before.equals(Checks.picture(x)));
+            SpeaksForTheChair y = new SpeaksForTheChair();
+            y.speak(2);
+            y.seen(1, 1, 1);
+            y.keep();
+            Checks.write(y, text);
+            String before = Checks.picture(y);
+            Checks.due("lay \"" + text + "\"", y.lay(), SpeaksForTheChair.NO);
+            Checks.holds("nothing changed by \"" + text + "\"", before.equals(Checks.picture(y)));
+            Checks.due("kept yet", y.back(), 0);
         }
-        Checks.due("kept yet", x.back(), 0);
-        x.wipe();
+        SpeaksForTheChair x = new SpeaksForTheChair();
         Checks.write(x, "m3;l1;d5,3,23,30;p1,2,60;l3;m7;p3,3,0;");
         Checks.due("lay", x.lay(), 2);
         int[] counts = {2, 1, 7, 0, 0, 0, 0, 0, 0, 0, 38};

@@ -95,11 +95,11 @@ public final class ModelRunsTest {
     }
 
     private int piece() {
-        return number(0, x.count(0) - 1);
+        return number(0, model.count(0) - 1);
     }
 
     private int deed() {
-        return number(0, x.count(1) - 1);
+        return number(0, model.count(1) - 1);
     }
 
     private void act() {
@@ -191,7 +191,7 @@ public final class ModelRunsTest {
         int what = number(0, 1);
         if (random.nextBoolean()) {
             // A house of few tellers: the model's search for the lowest terms is slow beyond.
-            if (Integer.bitCount(Math.max(0, x.deed(d, 5))) <= 3) {
+            if (Integer.bitCount(Math.max(0, model.deed(d, 5))) <= 3) {
                 due("likely " + d + " " + chance + " " + what, x.likely(d, chance, what),
                     model.likely(d, chance, what));
             }
